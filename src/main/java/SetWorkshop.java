@@ -315,14 +315,10 @@ public final class SetWorkshop {
     }
 
     public int log(int i, int what) {
-        Events events = shift.events;
-        if (i < 0 || i >= events.size) {
-            return NONE;
-        }
         switch (what) {
-            case 0: return events.minuteOf(i);
-            case 1: return events.jobOf(i);
-            case 2: return events.kindOf(i);
+            case 0: return shift.events.minuteOf(i);
+            case 1: return shift.events.jobOf(i);
+            case 2: return shift.events.kindOf(i);
             default: return NONE;
         }
     }

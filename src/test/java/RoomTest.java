@@ -72,7 +72,7 @@ public final class RoomTest {
             for (int k = 0; k < 30; k++) {
                 x.piece(i, 1);
             }
-            x.body(i, 1 + i % 3, 30, 1);
+            x.body(i, 1 + i % 5, 30, 1);
         }
         for (int k = 0; k < 60; k++) {
             x.stock(k, 1000000);
@@ -82,6 +82,19 @@ public final class RoomTest {
         due.is("chain", x.count(7), 200);
         due.is("left", x.left(59), 1000000);
         due.is("had", x.had(39), 199);
+        // Boards, parts above 0, what number 1 has, pairs, the sum of 30 times 1.3 rounded up.
+        int[] results = {2, 30, 1, 15, 60};
+        for (int i = 0; i < 200; i++) {
+            due.is("result", x.result(i), results[i % 5]);
+        }
+        x.job(0, 1, 0);
+        x.plan(0, 1, 1);
+        due.is("the first fails", x.run(1000000), 1);
+        due.is("all comes back but what was at work", x.left(59), 0);
+        due.is("the last is cancelled", x.state(199, 0), 3);
+        x.clearPlan();
+        due.is("the second is interrupted", x.run(10), 2);
+        due.is("what comes back", x.left(59), 1000000 - 1000000 * 9 / 38);
     }
 
     private static void wildCalls(int seed) {
