@@ -3,12 +3,20 @@ import java.util.function.LongSupplier;
 
 /** Gathers the answers that are not as due; a test ends with exit code 1 if there was one. */
 final class Due {
+    private static final int MOST_TOLD = 50;
+
     private final String test;
+    private String about = "";
     private int asked;
     private int wrong;
 
     Due(String test) {
         this.test = test;
+    }
+
+    /** What the next answers belong to. */
+    void about(String words) {
+        about = words + ": ";
     }
 
     void is(String call, long got, long want) {
@@ -35,9 +43,17 @@ final class Due {
 
     void tell(String text) {
         wrong++;
-        if (wrong <= 50) {
-            System.out.println(test + ": " + text);
+        if (wrong <= MOST_TOLD) {
+            System.out.println(test + ": " + about + text);
         }
+    }
+
+    int asked() {
+        return asked;
+    }
+
+    int wrong() {
+        return wrong;
     }
 
     boolean allRight() {
