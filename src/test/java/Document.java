@@ -3,7 +3,9 @@ import java.io.UncheckedIOException;
 import java.nio.file.Files;
 import java.nio.file.Path;
 import java.util.Map;
+import java.util.Set;
 import java.util.TreeMap;
+import java.util.TreeSet;
 
 /**
  * The words of ../shared/DOC.md by section ("Term 2", "STATUS", "Promise 17"), so that each test
@@ -50,6 +52,13 @@ final class Document {
         }
         return line.replaceAll("^[1-4]\\. ", "").replaceAll("^`[^`]*\\)[^`]*`: ", "")
             .replaceAll("\\s+", " ").trim();
+    }
+
+    /** The sections that have words of their own. */
+    Set<String> sections() {
+        Set<String> all = new TreeSet<>(open.keySet());
+        all.removeIf(section -> open.get(section).isEmpty());
+        return all;
     }
 
     /** Whether the section says these words, in a place that was not quoted before. */

@@ -92,7 +92,25 @@ public final class SaysBodiesTest {
             computes(due, Shops.body(0, 9, 9), 0);
             computes(due, Shops.body(0, 9, 0, 9, 3), 0);
             computes(due, Shops.body(0, -1, -1, -1, LOW, HIGH), 0);
+            nothingOfAnother(due, 0);
         });
+    }
+
+    /** A body without parts shows none, though another job's parts were computed just ahead. */
+    private static void nothingOfAnother(Due due, int kind) {
+        SetWorkshop x = Shops.jobs(2, 1, 1);
+        for (int job = 0; job < 2; job++) {
+            x.body(job, job == 0 ? 5 : kind, 0, 0);
+            x.piece(job, 6);
+            x.piece(job, 6);
+        }
+        x.run(1);
+        for (int i = 0; i < 2; i++) {
+            due.is("the other's part " + i, x.part(0, i), 6);
+            due.is("its own part " + i, x.part(1, i), 0);
+        }
+        due.is("the other's result", x.result(0), 12);
+        due.is("its own result", x.result(1), kind == 0 ? 0 : 1);
     }
 
     private void cut() {
@@ -111,6 +129,8 @@ public final class SaysBodiesTest {
             computes(due, Shops.body(1, 10, 0, 7, 6, 4, 3, 1), 3, 0, 1, 1, 0, 2);
             // Both have room: the first takes it.
             computes(due, Shops.body(1, 10, 0, 7, 6, 2, 2), 2, 0, 1, 0, 1);
+            // The first that has room takes 1, not the one that it would fill (10 and 9 and 1).
+            computes(due, Shops.body(1, 20, 0, 12, 10, 9, 1), 2, 0, 1, 1, 0);
             long[] boards = new long[30];
             for (int i = 0; i < 30; i++) {
                 boards[i] = i;
@@ -259,6 +279,7 @@ public final class SaysBodiesTest {
             fails(due, Shops.body(4, 1, 0, last), 22);
         });
         doc.says("Term 2", "RESULT: how many pairs.", due -> {
+            nothingOfAnother(due, 4);
             for (int n = 1; n <= 30; n++) {
                 computes(due, Shops.body(4, 0, 0, Arrays.copyOf(thirty(6), n)), (n + 1) / 2);
             }

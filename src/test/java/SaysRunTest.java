@@ -136,6 +136,15 @@ public final class SaysRunTest {
             due.is("run", x.run(1000000), 0);
             Shops.events(due, x, 0, 5, 0, 10000, 1, 0, 10000, 5, 1, 10001, 1, 1, 10001, 5, 2,
                 20000, 1, 2);
+            // As many minutes as there can be in which something happens: one behind the other.
+            SetWorkshop all = Shops.crafts(1);
+            for (int i = 0; i < 200; i++) {
+                all.job(0, 2, 0);
+            }
+            due.is("all jobs", all.run(1000), 0);
+            due.is("the last one", all.state(199, 2), 400);
+            due.is("all but the last", all.run(399), 2);
+            due.is("it is interrupted", all.state(199, 0), 4);
         });
         doc.says("Term 3", "(a) The JOBS that end in this minute, by number: a JOB that began at s ends at s and the minute of its PLAN, if it has one: it FAILED by that kind;", due -> {
             SetWorkshop x = Shops.jobs(1, 5, 5, 5, 5);
@@ -209,6 +218,7 @@ public final class SaysRunTest {
                 due.is("of 1000000 behind " + minute[i], x.left(1), million[i]);
                 due.is("of 5 behind " + minute[i] + " (7 first)", x.left(2), five[i]);
             }
+            manyStocksComeBack(due);
             // One that fails by its body was at work for all its minutes: nothing comes back.
             SetWorkshop y = Shops.body(5, -1, 0, 1);
             y.stock(0, 9);
@@ -230,6 +240,21 @@ public final class SaysRunTest {
             x.run(3);
             due.is("not begun", x.state(2, 4), 0);
         });
+    }
+
+    private static void manyStocksComeBack(Due due) {
+        SetWorkshop x = Shops.jobs(1, 4);
+        x.plan(0, 3, 1);
+        for (int i = 0; i < 60; i++) {
+            x.stock(i, 8 + i);
+            x.uses(0, i, 8);
+        }
+        for (int deadline : new int[] {3, 1}) {
+            x.run(deadline);
+            for (int i = 0; i < 60; i++) {
+                due.is("left(" + i + ") in minute " + deadline, x.left(i), i + 8 - 2 * deadline);
+            }
+        }
     }
 
     private void cancelled() {

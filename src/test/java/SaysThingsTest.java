@@ -472,6 +472,19 @@ public final class SaysThingsTest {
         });
     }
 
+    /** Twenty layers of jobs of 1, 2 and 3 minutes, each after all of the layer ahead. */
+    private static SetWorkshop layers() {
+        SetWorkshop x = Shops.crafts(1);
+        for (int job = 0; job < 60; job++) {
+            x.job(0, 1 + job % 3, 0);
+            int layer = job - job % 3;
+            for (int before = layer - 3; before < layer; before++) {
+                x.after(job, before);
+            }
+        }
+        return x;
+    }
+
     private void paths() {
         doc.says("Term 4", "TAIL of a JOB: its MINUTES and the greatest TAIL of those AFTER it;", due -> {
             SetWorkshop x = Shops.jobs(1, 5, 3, 4);
@@ -488,6 +501,13 @@ public final class SaysThingsTest {
                 y.after(i, i - 1);
             }
             due.is("the greatest there can be", y.count(8), 2000000);
+            due.is("on a way through layers", layers().count(8), 60);
+            SetWorkshop grows = Shops.crafts(1);
+            for (int i = 0; i < 160; i++) {
+                grows.job(0, 3, 0);
+                grows.after(i, i - 1);
+                due.is("with " + (i + 1) + " jobs in a row", grows.count(8), 3 * (i + 1));
+            }
         });
         doc.says("Term 4", "HEAD likewise of those BEFORE it.", due -> {
             // 0 and 1 are before 2; 3 is long and alone, so that slack shows the heads.
@@ -499,6 +519,10 @@ public final class SaysThingsTest {
             due.is("the greatest of two", x.slack(2), 91);
             x.after(0, 1);
             due.is("in a row", x.slack(2), 88);
+            SetWorkshop layers = layers();
+            for (int job = 0; job < 60; job++) {
+                due.is("slack(" + job + ") in its layer", layers.slack(job), 2 - job % 3);
+            }
         });
         doc.says("Term 4", "The CHAIN: the JOB with the greatest TAIL (of like ones the least),", due -> {
             due.is("without jobs", new SetWorkshop().critical(0), -1);
@@ -530,6 +554,11 @@ public final class SaysThingsTest {
                 due.is("critical(" + i + ")", x.critical(i), longer[i]);
             }
             due.is("there is none more", x.critical(4), -1);
+            SetWorkshop layers = layers();
+            for (int i = 0; i < 20; i++) {
+                due.is("critical(" + i + ") of layers", layers.critical(i), 3 * i + 2);
+            }
+            due.is("behind the last layer", layers.critical(20), -1);
         });
         doc.says("Term 4", "SLACK of a JOB: the greatest TAIL of all less its HEAD and TAIL, and its MINUTES more.", due -> {
             SetWorkshop x = Shops.jobs(1, 5, 3, 4, 2);

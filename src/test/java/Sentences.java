@@ -35,6 +35,11 @@ final class Sentences {
         (due.wrong() > wrong ? broken : kept).add(name);
     }
 
+    /** The sections whose sentences were looked at. */
+    Set<String> sections() {
+        return sections;
+    }
+
     List<String> kept() {
         return kept;
     }
