@@ -251,6 +251,8 @@ public final class SaysBodiesTest {
             fails(due, Shops.body(4, 2, 0, 1, 5, 7, 7), 22);
             computes(due, Shops.body(4, 0, 0, 5, 5, HIGH), 2);
             computes(due, Shops.body(4, 0, 0, LOW), 1);
+            // It is looked at like every other pair: 0 is not 0 to a number below 0.
+            fails(due, Shops.body(4, -1, 0, 5), 22);
             computes(due, Shops.body(4, 0, 0, thirty(-3)), 15);
         });
         doc.says("Term 2", "the frame less the piece must be 0 to A:", due -> {

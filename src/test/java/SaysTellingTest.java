@@ -489,7 +489,9 @@ public final class SaysTellingTest {
             x.plan(2, 1, 1);
             x.plan(2, 4, 9);
             due.is("two", x.clearPlan(), 2);
+            x.run(9);
             due.is("none any more", x.clearPlan(), 0);
+            due.is("the run is emptied all the same", x.again(), false);
             SetWorkshop all = Shops.crafts(1);
             for (int i = 0; i < 200; i++) {
                 all.job(0, 1, 0);

@@ -189,6 +189,11 @@ public final class SaysThingsTest {
                 Shops.same(due, "behind call " + i, Shops.answers(ran), Shops.answers(fresh));
                 due.is("no run is left behind call " + i, ran.again(), false);
             }
+            // Done is also what changes nothing: there is no plan to clear.
+            SetWorkshop planless = Shops.jobs(1, 4);
+            planless.run(9);
+            due.is("no plans", planless.clearPlan(), 0);
+            due.is("the run is emptied", planless.count(4), -1);
         });
         doc.says("STATUS", "A refused one changes nothing.", due -> {
             List<ToIntFunction<SetWorkshop>> calls = refusedCalls();
