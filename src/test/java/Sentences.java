@@ -12,7 +12,7 @@ final class Sentences {
     private final Document document = new Document();
     private final Due due;
     private final Set<String> sections = new TreeSet<>();
-    private final List<String> kept = new ArrayList<>();
+    private int looked;
     private final List<String> broken = new ArrayList<>();
 
     Sentences(String test) {
@@ -32,7 +32,10 @@ final class Sentences {
             due.tell("threw " + e);
         }
         due.is("something was asked", due.asked() > asked + 1, true);
-        (due.wrong() > wrong ? broken : kept).add(name);
+        looked++;
+        if (due.wrong() > wrong) {
+            broken.add(name);
+        }
     }
 
     /** The sections whose sentences were looked at. */
@@ -40,10 +43,7 @@ final class Sentences {
         return sections;
     }
 
-    List<String> kept() {
-        return kept;
-    }
-
+    /** The sentences that do not hold. */
     List<String> broken() {
         return broken;
     }
@@ -54,7 +54,7 @@ final class Sentences {
             String rest = document.unquoted(section);
             due.is("words without a test: " + rest, rest.isEmpty(), true);
         }
-        System.out.println((kept.size() + broken.size()) + " sentences, " + broken.size() + " broken");
+        System.out.println(looked + " sentences, " + broken.size() + " broken");
         due.end();
     }
 }
